@@ -330,6 +330,14 @@ public final class PromisesTest {
         z.curtain(0, false);
         z.step(5);
         carIs("slow stays slow", z, 0, 0, 0, 4, 1);
+        // The document does not say outright that steps held open by recall count; its words do.
+        LiftGroup w = new LiftGroup();
+        w.recall(true);
+        w.curtain(0, true);
+        w.step(30);
+        w.recall(false);
+        w.step(1);
+        carIs("open in 20 steps and more, in recall", w, 0, 0, 0, 2, 3);
         Check.refused("curtain -1", NO_SUCH, () -> z.curtain(-1, true));
         Check.refused("curtain 1", NO_SUCH, () -> z.curtain(1, true));
     }
