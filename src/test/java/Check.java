@@ -4,6 +4,7 @@ final class Check {
 
     private static int asked = 0;
     private static int wrong = 0;
+    private static String sentence = "";
 
     private Check() {
     }
@@ -18,6 +19,11 @@ final class Check {
         void run();
     }
 
+    /** The document's words that the answers from here on belong to. */
+    static void sentence(String words) {
+        sentence = '"' + words + "\": ";
+    }
+
     static void same(String what, long got, long due) {
         same(what, Long.toString(got), Long.toString(due));
     }
@@ -27,7 +33,7 @@ final class Check {
         if (!got.equals(due)) {
             wrong++;
             if (wrong <= SHOWN) {
-                System.out.println(what + " answered " + got + ", due is " + due);
+                System.out.println(sentence + what + " answered " + got + ", due is " + due);
             }
         }
     }
